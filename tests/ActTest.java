@@ -103,7 +103,7 @@ final class ActTest {
         for (int i = 1; i < 80; i++) {
             Check.is("11: up to 79", i, numbered(house, 0, Leasehall.PLAIN));
         }
-        house.make(0, 79, 1, true, 1001 - 1, Leasehall.PLAIN, 0);
+        Check.is("11: the node 79 has a past", 0, house.valueAt(79, 79));
         Check.is("11: 80 were made", Leasehall.FULL, plain(house, 0, 79, 1));
         house.delete(0, 78, ANY);
         Check.is("11: also if one is gone", Leasehall.FULL, plain(house, 0, 79, 1));
@@ -158,6 +158,7 @@ final class ActTest {
         Check.is("13: the node 0", Leasehall.NOT_EMPTY, house.delete(0, 0, ANY));
         Check.is("13: the node 0's version", Leasehall.BAD_VERSION, house.delete(0, 0, 1));
         Check.is("13: an old version", Leasehall.BAD_VERSION, house.delete(0, 4, 0));
+        Check.is("13: it has one child", Leasehall.NOT_EMPTY, house.delete(0, 2, ANY));
         Check.is("13: one goes", 1, house.delete(1, 4, 1));
         Check.is("13: the server of the session has it", Leasehall.NO_NODE, house.read(1, 4, 0));
         Check.is("13: the parent's children's version", 3, house.read(0, 3, 2));
@@ -246,6 +247,9 @@ final class ActTest {
         Check.is("15: of any", 1, house.check(0, 1, ANY));
         Check.is("15: another", Leasehall.BAD_VERSION, house.check(0, 1, 0));
         Check.is("15: no change", 2, house.changes());
+        house.open(2, 2, 50);
+        Check.is("15: the version 0", 0, house.check(2, 0, 0));
+        Check.is("15: is one that is done, too", 2, house.ping(2));
         Check.is("15: one that is refused lets its server get nothing", -3, house.check(1, 1, 0));
         Check.is("15: as it shows", 0, house.ping(1));
         Check.is("15: one that is done", 1, house.check(1, 1, 1));
@@ -257,7 +261,7 @@ final class ActTest {
         for (int node : new int[] {2, 80, -1, Integer.MAX_VALUE, Integer.MIN_VALUE}) {
             Check.is("15: no node " + node, Leasehall.NO_NODE, house.check(0, node, 5));
         }
-        Check.fails("15: no session", Check.RANGE, () -> house.check(2, 0, 0));
+        Check.fails("15: no session", Check.RANGE, () -> house.check(3, 0, 0));
         house.close(1);
         Check.fails("15: it has ended", Check.STATE, () -> house.check(1, 0, 0));
         sixAreGathered(house);
@@ -337,6 +341,20 @@ final class ActTest {
         house.check(1, 0, ANY);
         Check.is("17: checks alone make no change", 2, house.done(1));
         Check.is("17: but are done", 2, house.ping(1));
+    }
+
+    private static void promise17First() {
+        Leasehall house = house();
+        house.gather(0);
+        house.set(0, 1, 7, ANY);
+        house.set(0, 0, 7, ANY);
+        house.set(0, 2, 7, ANY);
+        Check.is("17: the first is refused", -1, house.done(0));
+        Check.is("17: none is done", 0, house.changes());
+        int[] due = {Leasehall.NO_NODE, Leasehall.SKIPPED, Leasehall.SKIPPED, Leasehall.NONE};
+        for (int i = 0; i < due.length; i++) {
+            Check.is("17: the answer " + i, due[i], house.answer(0, i));
+        }
     }
 
     private static void promise17Lease() {
@@ -478,6 +496,7 @@ final class ActTest {
         promise16();
         promise17();
         promise17None();
+        promise17First();
         promise17Lease();
         promise18();
         promise19();

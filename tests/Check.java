@@ -22,19 +22,24 @@ final class Check {
         is(what, due ? 1 : 0, got ? 1 : 0);
     }
 
-    /** The class has to be exactly the one due: what the machine throws is often of a class below it. */
+    /** The class has to throw the very exception that is due, and by itself: neither the machine nor the library. */
     static void fails(String what, Class<?> due, Runnable call) {
         looked++;
-        Class<?> got = null;
+        RuntimeException got = null;
         try {
             call.run();
         } catch (RuntimeException e) {
-            got = e.getClass();
+            got = e;
         }
-        if (got != due) {
+        if ((got == null ? null : got.getClass()) != due || got != null && !isOwn(got)) {
             wrong++;
             System.out.println("  " + what + ": due is " + due + ", got " + got);
         }
+    }
+
+    static boolean isOwn(Throwable thrown) {
+        StackTraceElement[] trace = thrown.getStackTrace();
+        return trace.length > 0 && trace[0].getClassName().startsWith("Leasehall");
     }
 
     static void hears(String what, Leasehall house, int session, int... due) {

@@ -73,6 +73,9 @@ final class PastTest {
         for (int node : new int[] {3, 79, 80, -1, -100, Integer.MAX_VALUE, Integer.MIN_VALUE}) {
             Check.is("34: no node " + node, Leasehall.NONE, house.changedAt(node, 0, 0));
         }
+        house.lose(false);
+        house.set(0, 0, 4, ANY);
+        Check.is("34: not by what was not done", Leasehall.NONE, house.changedAt(0, 5, 0));
         Check.fails("34: place -1", Check.RANGE, () -> house.changedAt(1, 99, -1));
         Check.fails("34: -1", Check.ARGUMENT, () -> house.changedAt(1, -1, 0));
         Check.fails("34: 8", Check.ARGUMENT, () -> house.changedAt(1, 8, 0));
@@ -199,7 +202,9 @@ final class PastTest {
         Check.fails("37: none was kept", Check.STATE, () -> house.restore());
         Check.is("37: then nothing happens", 0, house.changes());
         house.open(0, 0, 50);
+        house.make(0, 0, 3, false, 5, Leasehall.OF_SESSION, 0);
         house.snapshot();
+        house.delete(0, 1, ANY);
         house.want(0, 0, false);
         house.has(0, 0);
         house.restore();
@@ -207,9 +212,10 @@ final class PastTest {
         Check.fails("37: until it is told", Check.STATE, () -> house.giveUp(0, 0));
         Check.is("37: then it does not", 0, house.believers(0));
         house.open(0, 0, 50);
+        Check.is("37: the node 1 was of a session", Leasehall.NO_NODE, house.read(1, 1, 0));
         Check.is("37: no watches", 1, house.watch(1, 0, Leasehall.BRANCH));
         house.pass(50);
-        Check.is("37: ends later make no change", 2, house.changes());
+        Check.is("37: ends later make no change", 4, house.changes());
     }
 
     private static void promise38() {

@@ -91,6 +91,18 @@ final class RecipeTest {
         Check.is("26: its own, but not of its session", Leasehall.NONE, house.has(2, 1));
     }
 
+    /** The node 0 as a lock and as a queue, with the node 1 as its first child. */
+    private static void promises26And30Node0() {
+        Leasehall house = house();
+        house.want(0, 0, false);
+        Check.is("26: the node 1 is a lower one", Leasehall.NONE, house.has(0, 0));
+        plain(house, 1, 1);
+        Check.is("30: the node 1 has children", 0, house.takeFirst(1, 0));
+        Check.is("30: so the other one went", Leasehall.NO_NODE, house.read(0, 2, 0));
+        house.want(2, 0, true);
+        Check.is("27: behind the node 1", 1, house.giveUp(2, 0));
+    }
+
     private static void promise26Servers() {
         Leasehall house = house();
         house.open(3, 1, 50);
@@ -343,6 +355,7 @@ final class RecipeTest {
         promise26();
         promise26Others();
         promise26Servers();
+        promises26And30Node0();
         promise27();
         promise27Server0();
         promise28();

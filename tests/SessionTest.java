@@ -55,10 +55,13 @@ final class SessionTest {
         house.open(0, 0, 1);
         house.open(0, 0, 50);
         Check.is("2: opening counts as a call", 0, house.ping(0));
+        house.open(0, 0, 50);
         house.pass(1);
         Check.fails("2: a patience of 1 is over", Check.STATE, () -> house.ping(0));
-        house.pass(49);
-        Check.fails("2: a patience of 50 is over at 50", Check.STATE, () -> house.ping(1));
+        house.pass(48);
+        Check.is("2: a patience of 50 is not over at 49", 0, house.ping(1));
+        house.pass(1);
+        Check.fails("2: but at 50", Check.STATE, () -> house.ping(2));
     }
 
     private static void promise3() {
@@ -104,13 +107,19 @@ final class SessionTest {
         Check.is("4: of a server that is behind", 0, house.ping(1));
         house.follow(1, 1);
         Check.is("4: of one less behind", 1, house.ping(1));
+        house.open(0, 2, 50);
+        house.set(2, 0, 1, -1);
+        Check.is("4: of the server 0, by a change from elsewhere", 3, house.ping(0));
+        house.make(2, 0, 3, false, 0, Leasehall.OF_SESSION, 0);
+        house.close(2);
+        Check.is("4: or by an end", 5, house.ping(0));
         house.pass(9);
         Check.is("4: it is there in time", 1, house.ping(1));
         house.pass(9);
         Check.is("4: and again", 1, house.ping(1));
         house.pass(10);
         Check.fails("4: too late", Check.STATE, () -> house.ping(1));
-        Check.fails("4: no session 2", Check.RANGE, () -> house.ping(2));
+        Check.fails("4: no session 3", Check.RANGE, () -> house.ping(3));
         Check.fails("4: no session -1", Check.RANGE, () -> house.ping(-1));
     }
 

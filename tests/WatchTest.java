@@ -256,9 +256,36 @@ final class WatchTest {
         for (int i = heard; i < 200; i++) {
             Check.is("24: a long row", 1, house.hear(0));
         }
+        longWithDifferences();
         Check.fails("24: no session", Check.RANGE, () -> house.hear(2));
         house.close(1);
         Check.fails("24: it has ended", Check.STATE, () -> house.hear(1));
+    }
+
+    /** Three are told, two are heard, again and again, so that a long row is used up and grows at once. */
+    private static void longWithDifferences() {
+        Leasehall house = house();
+        for (int i = 1; i < 60; i++) {
+            plain(house, 0, i);
+        }
+        house.watch(0, 0, Leasehall.BRANCH);
+        int told = 0;
+        int heard = 0;
+        for (int round = 0; round < 60; round++) {
+            for (int i = 0; i < 3; i++) {
+                house.set(0, told % 59 + 1, 1, ANY);
+                told++;
+            }
+            for (int i = 0; i < 2; i++) {
+                Check.is("24: in turn", heard % 59 * 10 + 11, house.hear(0));
+                heard++;
+            }
+        }
+        while (heard < told) {
+            Check.is("24: to the end", heard % 59 * 10 + 11, house.hear(0));
+            heard++;
+        }
+        Check.hears("24: and nothing more", house, 0);
     }
 
     public static void main(String[] args) {

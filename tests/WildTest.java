@@ -39,9 +39,7 @@ final class WildTest {
     }
 
     private static boolean isDeclared(Method method, Throwable thrown) {
-        boolean own = thrown.getStackTrace().length > 0
-            && thrown.getStackTrace()[0].getClassName().startsWith("Leasehall");
-        return own && Arrays.asList(method.getExceptionTypes()).contains(thrown.getClass());
+        return Check.isOwn(thrown) && Arrays.asList(method.getExceptionTypes()).contains(thrown.getClass());
     }
 
     private void runs(int calls) throws IllegalAccessException {

@@ -913,13 +913,10 @@ public final class Leasehall {
         }
 
         private void appear(int node, int parent, int itsValue) {
+            // Its number was never given before, so its versions are 0 still.
             here[node] = true;
             value[node] = itsValue;
-            valueVersion[node] = 0;
-            childVersion[node] = 0;
-            rightsVersion[node] = 0;
             rights[node] = rights[parent];
-            numbered[node] = 0;
             childVersion[parent]++;
             if (births.name[node] >= FIRST_NUMBERED) {
                 numbered[parent]++;
