@@ -42,11 +42,13 @@ public final class Leasehall {
     private static final int NOT_LOSING = 0, LOSING_DONE = 1, LOSING_UNDONE = 2;
 
     private final Births births = new Births();
-    private final Log log = new Log();
     private final Server[] servers = new Server[SERVERS];
+    // The server 0's tree, which decides, and what it was ahead of the acts that are being done.
     private final Tree truth = new Tree(births);
     private final Tree before = new Tree(births);
+    // The tree of a new object, or of the last restore, from which the log leads to all that can be asked.
     private final Tree oldest = new Tree(births);
+    private final Log log = new Log();
     private final Tree kept = new Tree(births);
     private final ArrayList<Session> sessions = new ArrayList<Session>();
     private final ArrayList<Lease> leases = new ArrayList<Lease>();
@@ -866,7 +868,9 @@ public final class Leasehall {
         final int[] rightsVersion = new int[MOST_NODES];
         final int[] rights = new int[MOST_NODES];
         final int[] numbered = new int[MOST_NODES];
+        // Rows to reckon in.
         final int[] below = new int[MOST_NODES];
+        final boolean[] given = new boolean[MOST_NODES];
 
         Tree(Births births) {
             this.births = births;
@@ -923,10 +927,12 @@ public final class Leasehall {
             }
         }
 
+        // A child's number is above its parent's, so whether its parent is given them is known when it is looked at.
         private void giveRights(int node, int sum, boolean toBranch) {
-            int end = toBranch ? MOST_NODES : node + 1;
-            for (int i = node; i < end && i < MOST_NODES; i++) {
-                if (here[i] && births.isWithinBranch(i, node)) {
+            for (int i = node; i < MOST_NODES; i++) {
+                int parent = births.parent[i];
+                given[i] = i == node || toBranch && here[i] && parent >= node && given[parent];
+                if (given[i]) {
                     rights[i] = sum;
                     rightsVersion[i]++;
                 }
