@@ -334,13 +334,37 @@ final class ActTest {
         Check.is("17: no number is taken", 2, plain(house, 0, 1, 2));
         Check.fails("17: it does not gather any more", Check.STATE, () -> house.done(0));
         house.gather(1);
-        Check.is("17: without acts, the last change", 2, house.done(1));
-        Check.is("17: which lets its server get nothing", 0, house.ping(1));
-        house.gather(1);
         house.check(1, 1, 0);
         house.check(1, 0, ANY);
         Check.is("17: checks alone make no change", 2, house.done(1));
         Check.is("17: but are done", 2, house.ping(1));
+    }
+
+    private static void promise17Nothing() {
+        Leasehall house = house();
+        house.open(2, 2, 1);
+        house.watch(1, 0, Leasehall.CHILDREN);
+        plain(house, 0, 0, 1);
+        plain(house, 0, 1, 1);
+        house.gather(1);
+        house.check(1, 9, ANY);
+        Check.is("17: what is refused lets its server get nothing", -1, house.done(1));
+        Check.is("17: as it shows", 0, house.ping(1));
+        house.gather(1);
+        Check.is("17: nor does gather()", 0, house.ping(1));
+        Check.is("17: without acts, the last change", 2, house.done(1));
+        Check.is("17: its server gets all", 2, house.ping(1));
+        Check.is("17: and more do not come", 0, house.follow(1, 20));
+        Check.is("17: a watch is told by that", 10 + Leasehall.MADE, house.hear(1));
+        Check.is("17: the other server gets nothing", 2, house.follow(2, 20));
+        Check.is("17: nothing was answered", Leasehall.NONE, house.answer(1, 0));
+        Check.is("17: no change is made", 2, house.changes());
+        Check.fails("17: it gathers no more", Check.STATE, () -> house.done(1));
+        house.set(0, 0, 3, ANY);
+        house.pass(1);
+        Check.fails("17: one that has ended", Check.STATE, () -> house.done(2));
+        Check.fails("17: one that does not gather", Check.STATE, () -> house.done(1));
+        Check.is("17: when thrown its server gets nothing", 1, house.sync(1));
     }
 
     private static void promise17First() {
@@ -432,6 +456,20 @@ final class ActTest {
         Check.is("19: it is gone", Leasehall.NO_NODE, house.delete(0, 2, ANY));
     }
 
+    private static void promise19Nothing() {
+        Leasehall house = house();
+        plain(house, 0, 0, 1);
+        house.lose(false);
+        house.gather(1);
+        Check.is("19: done() without acts is not lost", 1, house.done(1));
+        Check.is("19: and lets its server get all", 1, house.ping(1));
+        Check.is("19: the next act is", Leasehall.LOST, house.set(0, 0, 3, ANY));
+        Check.is("19: and not done", 1, house.changes());
+        house.gather(1);
+        Check.is("19: nor is the one behind it", 1, house.done(1));
+        Check.is("19: then acts answer again", 1, house.set(0, 0, 3, ANY));
+    }
+
     private static void promise19Servers() {
         Leasehall house = house();
         house.set(0, 0, 5, ANY);
@@ -496,10 +534,12 @@ final class ActTest {
         promise16();
         promise17();
         promise17None();
+        promise17Nothing();
         promise17First();
         promise17Lease();
         promise18();
         promise19();
+        promise19Nothing();
         promise19Servers();
         promise20();
         Check.end("promises 11 to 20");

@@ -514,7 +514,11 @@ final class Model implements House {
                 return -1 - i;
             }
         }
-        return acts.isEmpty() || settle(v, next) ? last() : -100;
+        if (acts.isEmpty()) {
+            advance(v.server, last());
+            return last();
+        }
+        return settle(v, next) ? last() : -100;
     }
 
     @Override

@@ -241,6 +241,8 @@ public final class Leasehall {
             return -1 - refused;
         }
         if (s.answered == 0) {
+            // Nothing is refused, so it is done; but only acts, one or more, take up a LOST answer.
+            catchUp(s.server, lastChange);
             return lastChange;
         }
         return settle(s) ? lastChange : NONE;
