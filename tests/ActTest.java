@@ -470,6 +470,16 @@ final class ActTest {
         Check.is("19: then acts answer again", 1, house.set(0, 0, 3, ANY));
     }
 
+    private static void promise19Restored() {
+        Leasehall house = house();
+        house.snapshot();
+        house.lose(true);
+        house.restore();
+        house.open(0, 0, 50);
+        Check.is("19: told ahead of a restore", Leasehall.LOST, house.set(2, 0, 3, ANY));
+        Check.is("19: and done", 3, house.read(2, 0, 0));
+    }
+
     private static void promise19Servers() {
         Leasehall house = house();
         house.set(0, 0, 5, ANY);
@@ -540,6 +550,7 @@ final class ActTest {
         promise18();
         promise19();
         promise19Nothing();
+        promise19Restored();
         promise19Servers();
         promise20();
         Check.end("promises 11 to 20");

@@ -91,6 +91,17 @@ final class RecipeTest {
         Check.is("26: its own, but not of its session", Leasehall.NONE, house.has(2, 1));
     }
 
+    private static void promise26Value7() {
+        Leasehall house = house();
+        house.want(0, 1, true);
+        house.want(1, 1, true);
+        Check.is("26: shared, with the value 1", 3, house.has(1, 1));
+        house.set(1, 3, 7, ANY);
+        Check.is("26: with the value 7 it is not", Leasehall.NONE, house.has(1, 1));
+        house.giveUp(0, 1);
+        Check.is("26: then it has to be the first", 3, house.has(1, 1));
+    }
+
     /** The node 0 as a lock and as a queue, with the node 1 as its first child. */
     private static void promises26And30Node0() {
         Leasehall house = house();
@@ -354,6 +365,7 @@ final class RecipeTest {
         promise25();
         promise26();
         promise26Others();
+        promise26Value7();
         promise26Servers();
         promises26And30Node0();
         promise27();

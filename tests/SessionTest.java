@@ -141,6 +141,16 @@ final class SessionTest {
         Check.fails("5: it has ended", Check.STATE, () -> house.move(1, 0));
     }
 
+    private static void promise5Alive() {
+        Leasehall house = withSession();
+        house.open(0, 0, 2);
+        plain(house, 0, 0, 1, 1);
+        house.pass(1);
+        Check.is("5: not moved", false, house.move(1, 2));
+        house.pass(1);
+        Check.is("5: but it did something by that", 1, house.ping(1));
+    }
+
     private static void promise6() {
         Leasehall house = withSession();
         house.open(0, 1, 50);
@@ -319,6 +329,7 @@ final class SessionTest {
         promise3AtAnother();
         promise4();
         promise5();
+        promise5Alive();
         promise6();
         promise7();
         promise8();
