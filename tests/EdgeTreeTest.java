@@ -351,6 +351,39 @@ final class EdgeTreeTest {
         Check.is("none for one without", 5, house.changes());
     }
 
+    /** "all below it", when each is below the one before, down to the 80th. */
+    private static void deepest() {
+        Leasehall house = house();
+        house.watch(0, 0, Leasehall.BRANCH);
+        for (int i = 0; i < 79; i++) {
+            Check.is("below the one before", i + 1, plain(house, i, 7));
+            Check.is("the BRANCH of the node 0", 10 * (i + 1) + Leasehall.MADE, house.hear(0));
+        }
+        for (int node = 0; node < 80; node++) {
+            Check.is("how many are below", 79 - node, house.quota(node, 80));
+            Check.is("how many children", node < 79 ? 1 : 0, house.read(0, node, 6));
+            Check.is("which child", node < 79 ? node + 1 : Leasehall.NONE, house.child(0, node, 0));
+            Check.is("NOT_EMPTY but the last", node < 79 ? Leasehall.NOT_EMPTY : 1, house.delete(0, node, 0));
+        }
+        for (int node : new int[] {0, 1, 40, 77, 78}) {
+            Check.is("how many have these", 79 - node, house.rights(0, node, 15, 15, true));
+            Check.is("just it", 1, house.rights(0, node, 15, 15, false));
+        }
+        Check.is("the last one's version of rights", 6, house.read(0, 78, 3));
+    }
+
+    /** "or of it and all below it": 80 of them, beside one another. */
+    private static void rightsOfAll() {
+        Leasehall house = withNodes(79);
+        Check.is("all", 80, house.rights(0, 0, 15, 1, true));
+        for (int node = 0; node < 80; node++) {
+            Check.is("each", 15 + 16, house.read(1, node, 9));
+            Check.is("each once", 1, house.read(1, node, 3));
+        }
+        Check.is("the last", 1, house.rights(0, 79, 0, 15, true));
+        Check.is("which is no other", 31, house.read(1, 78, 9));
+    }
+
     public static void main(String[] args) {
         atMost80();
         atMost80Gathered();
@@ -366,6 +399,8 @@ final class EdgeTreeTest {
         lastNumberedName();
         rights();
         rightsOfTheParent();
+        rightsOfAll();
+        deepest();
         changes();
         Check.end("edges of the tree");
     }
