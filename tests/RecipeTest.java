@@ -228,6 +228,21 @@ final class RecipeTest {
         Check.is("28: of none", 0, house.believers(1));
     }
 
+    /** The lock is a container, which goes with its last child: what is believed does not go with it. */
+    private static void promise28LockGone() {
+        Leasehall house = house();
+        int lock = house.make(0, 0, 2, false, 0, Leasehall.CONTAINER, 0);
+        int child = house.want(1, lock, false);
+        Check.is("26: has it", house.changes(), house.has(1, lock));
+        Check.is("13: the child goes, and the lock", 2, house.delete(0, child, ANY));
+        Check.is("21: there is no lock", Leasehall.NO_NODE, house.read(1, lock, 0));
+        Check.is("28: it believes still", 2, house.believers(lock));
+        Check.is("27: has no child there", 0, house.giveUp(2, lock));
+        Check.is("28: another gave it up", 2, house.believers(lock));
+        Check.is("26: asks again", Leasehall.NONE, house.has(1, lock));
+        Check.is("28: then it does not", 0, house.believers(lock));
+    }
+
     /** Each call that is refused because the session has ended tells it so. */
     private static void promise28Told() {
         for (int call = 0; call < 21; call++) {
@@ -372,6 +387,7 @@ final class RecipeTest {
         promise27Server0();
         promise28();
         promise28Lapsed();
+        promise28LockGone();
         promise28Told();
         promise29();
         promise30();
